@@ -973,8 +973,9 @@ public final class CableKeeper {
             int near = joinedWith(cables.first[cable]);
             int beyond = joinedWith(cables.second[cable]);
             for (int site = 0; site < sites; site++) {
-                for (int far = 0; far < sites; far++) {
-                    if ((near >> site & 1) == 1 && (beyond >> far & 1) == 1) {
+                boolean isNear = (near >> site & 1) == 1;
+                for (int far = 0; far < sites && isNear; far++) {
+                    if ((beyond >> far & 1) == 1) {
                         link(cables, cable, site, far);
                     }
                 }

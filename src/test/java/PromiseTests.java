@@ -137,7 +137,8 @@ public final class PromiseTests {
 
     private static void faults() {
         PromiseTests test = promise("4 faults");
-        test.text("cables 0 1 5;", 1, 0).text("Cable 0 1 5;", 1, 0).text(";", 1, 0).text("7;", 1, 0)
+        test.text("table 0 1 5;", 1, 0).text("cablz 0 1 5;", 1, 0).text("cable 0 1 5 zz;", 1, 12)
+                .text("cables 0 1 5;", 1, 0).text("Cable 0 1 5;", 1, 0).text(";", 1, 0).text("7;", 1, 0)
                 .text("1000;", 1, 0).text("sites;", 1, 5).text("sites 4", 1, 7).text("sites 4  ", 1, 9)
                 .text("sites 4 4;", 1, 8).text("cable 0 1 5 1 1;", 1, 14).text("cable 0 x 5;", 1, 8)
                 .text("cable 0 1 5:", 1, 11).text("cable\t0 1 5;", 1, 5).text("broken;", 1, 6)
@@ -151,7 +152,7 @@ public final class PromiseTests {
         test.text("sites 4;sites 4;", 4, 8).text("cable 0 1 5;sites 4;", 4, 12)
                 .text("cable 0 1 5;broken 0;broken 0;", 4, 28).text("cable 0 1 5;sites", 4, 12);
         test.text("cable 0 0 5;", 5, 8).text("cable 3 03 5;", 5, 8);
-        test.due("count 15", 40);
+        test.due("count 15", 43);
         String cable = "cable 0 1 5;";
         promise("4 faults").text(cable.repeat(24)).due("count 1", 24).text(cable.repeat(25), 2, 288)
                 .text(cable.repeat(24) + "cable", 2, 288).text(cable.repeat(24) + "broken 23;");
@@ -266,6 +267,8 @@ public final class PromiseTests {
         rings("16 told").due("breaks 4", 1).due("breaks 0", 1).due("price 3 100", 7)
                 .told("sites 5;cable 0 1 4 1;cable 1 2 4 0;cable 0 2 4 2;cable 2 3 100 1;cable 3 4 2 3;cable 2 4 9 0;"
                         + "broken 0;broken 4;");
+        promise("16 told").text("cable 0 1 9;cable 0 1 10;cable 0 1 99;cable 0 1 100;")
+                .told("sites 4;cable 0 1 9 0;cable 0 1 10 0;cable 0 1 99 0;cable 0 1 100 0;");
         String cable = "cable 9 8 999 3;";
         StringBuilder longest = new StringBuilder("sites 10;").append(cable.repeat(24));
         for (int i = 0; i < 24; i++) {
@@ -397,6 +400,8 @@ public final class PromiseTests {
                 .due("note 0 false", 1).dueEach("fits 0", 0, -1).due("forget", "").due("note 2 true", 1)
                 .dueEach("fits 2", 0, -1).dueEach("fits 1", 998, 2).due("forget", "").due("note 2 false", 1)
                 .dueEach("fits 2", 999, 1).dueEach("fits 0", 999, 1);
+        promise("26 fits, without a text").due("lay 0 1 5 0", 0).due("fits 0 0", 999).due("lay 0 1 5 0", 1)
+                .due("fits 0 0", 999).due("fits 1 0", 999);
         rings("26 fits, noted of a cable that is gone").due("lay 0 4 9 0", 6).due("note 6 false", 1)
                 .due("undo", 0).due("fits 0 0", 999).due("note 6 true", -1).due("lay 0 4 9 0", 6)
                 .due("note 6 true", 2).due("forget", "").due("note 6 true", 1).due("undo", 0).due("fits 0 0", 0);
@@ -406,6 +411,8 @@ public final class PromiseTests {
         rings("27 look").due("look 3", 5).due("look 5", 3).due("look 0", 2).due("look 4", 5).due("look 2", 1)
                 .due("note 5 false", 1).due("look 3", -1).due("look 0", 2).due("look 6", NO_ELEMENT)
                 .due("look -1", NO_ELEMENT).due("breaks 3", 1).due("look 3", NO_STATE).due("look 5", -1);
+        promise("27 look, a bar of 999 or none").text("sites 2;cable 0 1 999;cable 0 1 999;").due("look 0", -1)
+                .due("look 1", 0).due("price 0 1", 999).due("price 1 1", 999).due("look 0", 1).due("look 1", -1);
         promise("28 forget").due("forget", "").due("count 13", 0).text("cable 0 1 1;").due("note 0 false", 1)
                 .due("fits 0 0", 0).due("forget", "").due("fits 0 0", 999).due("look 0", -1);
     }
