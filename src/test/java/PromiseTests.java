@@ -1,66 +1,19 @@
 /** Each promise by itself: ordinary calls, the edges that the document names, wrong calls; reckoned by hand. */
 public final class PromiseTests {
-    private static final String NO_ELEMENT = "NoSuchElementException";
-    private static final String NO_ARGUMENT = "IllegalArgumentException";
-    private static final String NO_STATE = "IllegalStateException";
+    private static final String NO_ELEMENT = Checks.NO_ELEMENT;
+    private static final String NO_ARGUMENT = Checks.NO_ARGUMENT;
+    private static final String NO_STATE = Checks.NO_STATE;
 
-    /**
-     * Two rings that meet at site 2. THE NET: cables 4, 0, 1, 3 (taken so), which cost 2 + 4 + 4 + 7; outside
-     * are 2 (ring 0 1) and 5 (ring 3 4).
-     */
-    private static final String RINGS =
-            "sites 5;cable 0 1 4 1;cable 1 2 4;cable 0 2 4 2;cable 2 3 7 1;cable 3 4 2 3;cable 2 4 9;";
+    private static final String RINGS = Checks.RINGS;
 
-    private static int wrong = 0;
-
-    private final String name;
-    private final Calls calls = new Calls(new CableKeeper());
-
-    private PromiseTests(String name) {
-        this.name = name;
+    private PromiseTests() {
     }
 
-    private PromiseTests due(String call, Object want) {
-        String got = calls.answer(call);
-        if (!got.equals(want.toString())) {
-            wrong++;
-            System.out.println(name + ": " + call + " answered " + got + ", due is " + want);
-        }
-        return this;
+    private static Checks promise(String name) {
+        return new Checks(name);
     }
 
-    /** The answers to "name what" for what 0, 1 .. */
-    private PromiseTests dueEach(String call, int... want) {
-        for (int what = 0; what < want.length; what++) {
-            due(call + " " + what, want[what]);
-        }
-        return this;
-    }
-
-    private PromiseTests text(String text, int fault, int at) {
-        for (String feed : Calls.feeds(text)) {
-            calls.answer(feed);
-        }
-        return due("net " + text.length(), fault).due("fault", at);
-    }
-
-    private PromiseTests text(String text) {
-        return text(text, 0, -1);
-    }
-
-    private PromiseTests told(String text) {
-        due("told -1", text.length());
-        for (int i = 0; i < text.length(); i++) {
-            due("told " + i, (int) text.charAt(i));
-        }
-        return due("told " + text.length(), NO_ELEMENT).due("told -2", NO_ELEMENT);
-    }
-
-    private static PromiseTests promise(String name) {
-        return new PromiseTests(name);
-    }
-
-    private static PromiseTests rings(String name) {
+    private static Checks rings(String name) {
         return promise(name).text(RINGS);
     }
 
@@ -93,10 +46,7 @@ public final class PromiseTests {
         years();
         image();
         status();
-        System.out.println(wrong == 0 ? "all promises hold" : wrong + " answers are not as due");
-        if (wrong != 0) {
-            System.exit(1);
-        }
+        Checks.end("all promises hold");
     }
 
     private static void newObject() {
@@ -108,7 +58,7 @@ public final class PromiseTests {
     }
 
     private static void feed() {
-        PromiseTests test = promise("2 feed");
+        Checks test = promise("2 feed");
         for (int i = 1; i <= 35; i++) {
             test.due("feed 538976288 538976288 538976288 538976288 538976288", 20 * i);
         }
@@ -136,7 +86,7 @@ public final class PromiseTests {
     }
 
     private static void faults() {
-        PromiseTests test = promise("4 faults");
+        Checks test = promise("4 faults");
         test.text("table 0 1 5;", 1, 0).text("cablz 0 1 5;", 1, 0).text("cable 0 1 5 zz;", 1, 12)
                 .text("cables 0 1 5;", 1, 0).text("Cable 0 1 5;", 1, 0).text(";", 1, 0).text("7;", 1, 0)
                 .text("1000;", 1, 0).text("sites;", 1, 5).text("sites 4", 1, 7).text("sites 4  ", 1, 9)
@@ -275,6 +225,7 @@ public final class PromiseTests {
             longest.append("broken ").append(i).append(";");
         }
         promise("16 told").text(longest.toString()).told(longest.toString());
+        promise("16 told").text(longest.toString()).told(longest.toString(), Checks.MOST_TOLD);
     }
 
     private static void joined() {
@@ -301,7 +252,7 @@ public final class PromiseTests {
 
     /** All 24 cables join the same two sites: as each one in turn rises, the next one comes in its place. */
     private static void manySwaps() {
-        PromiseTests test = promise("18 many swaps").text("sites 2;" + "cable 0 1 100;".repeat(24));
+        Checks test = promise("18 many swaps").text("sites 2;" + "cable 0 1 100;".repeat(24));
         for (int act = 1; act <= 45; act++) {
             test.due("all 0 1", 100 + act);
             if (act == 43) {
@@ -369,7 +320,7 @@ public final class PromiseTests {
                 .due("undo", 1).due("cable 4 4", 1).due("count 3", 30).due("undo", 0).due("cable 0 2", 4)
                 .due("count 3", 27).due("count 4", 17).due("count 7", 0).due("undo", -1)
                 .due("count 13", 1).due("count 16", 1);
-        PromiseTests test = rings("24 undo, 40 are kept");
+        Checks test = rings("24 undo, 40 are kept");
         for (int i = 0; i < 50; i++) {
             test.due("price 0 " + (100 + i), i == 0 ? 4 : 99 + i);
         }
@@ -381,7 +332,7 @@ public final class PromiseTests {
     }
 
     private static void note() {
-        PromiseTests test = rings("25 note").due("note 6 true", -1).due("note -1 false", -1).due("count 17", 2);
+        Checks test = rings("25 note").due("note 6 true", -1).due("note -1 false", -1).due("count 17", 2);
         for (int i = 1; i <= 8; i++) {
             test.due("note 0 true", i);
         }
