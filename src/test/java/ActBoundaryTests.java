@@ -34,6 +34,7 @@ public final class ActBoundaryTests {
         tests.promise24Most();
         tests.promise24Round();
         tests.promise24Swaps();
+        tests.promise24LastCall();
         tests.promise25();
         tests.promise26();
         tests.promise26Bars();
@@ -45,6 +46,8 @@ public final class ActBoundaryTests {
         tests.promise29Seeds();
         tests.promise30();
         tests.promise30Keeps();
+        tests.promise30KeepsActs();
+        tests.promise30KeepsNoted();
         tests.promise31();
         tests.promise31Gone();
         doc.end();
@@ -241,6 +244,14 @@ public final class ActBoundaryTests {
         test.dueEach("swap 0", 1, 23, 23, 0, 101).dueEach("swap 23", 1, 0, 0, 1, 100).due("swap 24 0", NO_ELEMENT);
     }
 
+    private void promise24LastCall() {
+        Checks test = doc.use(24, "An object is used for at most 512 calls after it has been made").text(TWO);
+        for (int call = 5; call < 512; call++) {
+            test.due("price 0 " + (call % 2 + 1), call == 5 ? 5 : (call - 1) % 2 + 1);
+        }
+        test.due("undo", 39);
+    }
+
     private void promise25() {
         Checks test = doc.promise(25, "NONE (STATUS 2): there are 8").text(TWO);
         for (int noted = 1; noted <= 8; noted++) {
@@ -418,6 +429,9 @@ public final class ActBoundaryTests {
                 .due("all 0 100", 14).due("mend 1", 1).due("breaks 0", 1).due("lay 1 0 1 3", 2).due("restore", 1)
                 .told("sites 2;cable 0 1 7 0;cable 0 1 6 0;broken 1;").due("count 3", 1).due("count 4", 7)
                 .due("count 6", 0).due("count 7", 0).due("way 0 1 1", 7);
+    }
+
+    private void promise30KeepsActs() {
         Checks acts = doc.term(30, "ACTS that are kept, what is NOTED, STATUS.").text(TWO);
         for (int act = 1; act <= 45; act++) {
             acts.due("price 0 " + (100 + act), act == 1 ? 5 : 99 + act);
@@ -433,6 +447,15 @@ public final class ActBoundaryTests {
         for (int left = 39; left >= 0; left--) {
             acts.due("undo", left).due("cable 0 2", 105 + left);
         }
+        // The rooms of both acts are used anew behind the image: all three of what they keep come back.
+        doc.term(30, "ACTS that are kept, what is NOTED, STATUS.").text(TWO).due("lay 0 1 4 0", 2).due("breaks 2", 1)
+                .due("image", "").due("undo", 1).due("undo", 0).due("price 0 7", 5).due("price 0 8", 7)
+                .due("restore", 1).due("count 12", 2).due("count 1", 3).due("count 2", 3).due("count 6", 2)
+                .due("undo", 1).due("count 1", 3).due("count 2", 7).due("cable 0 2", 5).due("count 6", 1)
+                .due("undo", 0).due("count 1", 2).due("count 2", 3).due("count 6", 0);
+    }
+
+    private void promise30KeepsNoted() {
         Checks rest = doc.term(30, "ACTS that are kept, what is NOTED, STATUS.").text(TWO);
         for (int noted = 1; noted <= 8; noted++) {
             rest.due("note 0 true", noted);
@@ -441,6 +464,10 @@ public final class ActBoundaryTests {
                 .due("note 1 true", 1).due("note 9 true", -1).due("price 0 0", -1).faulty(1, "^x").due("restore", 1)
                 .due("count 13", 8).due("fits 0 0", 6).due("count 15", 1).due("count 16", 1).due("count 17", 1)
                 .due("note 0 true", -1).due("count 17", 2);
+        doc.term(30, "ACTS that are kept, what is NOTED, STATUS.").text(TWO).due("note 0 false", 1).due("image", "")
+                .due("forget", "").due("note 0 true", 1).due("restore", 1).due("count 13", 1).due("fits 0 0", 993)
+                .due("forget", "").due("image", "").due("note 0 false", 1).due("restore", 1).due("count 13", 0)
+                .due("fits 0 0", 999);
     }
 
     private void promise31() {

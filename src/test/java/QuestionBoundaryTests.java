@@ -109,7 +109,9 @@ public final class QuestionBoundaryTests {
                 .text("cable 0 1 5;cable 1 2 5;cable 2 3 5;").due("count 8", -1);
         doc.term(5, words).text("sites 2;cable 0 1 5;cable 0 1 6;broken 1;").due("count 8", -1)
                 .text("sites 2;cable 0 1 5;cable 0 1 6;broken 0;").due("count 8", -1)
-                .text("sites 2;cable 0 1 1;cable 0 1 999;").due("count 8", 999);
+                .text("sites 2;cable 0 1 1;cable 0 1 999;").due("count 8", 999)
+                .text("sites 2;cable 0 1 5;cable 0 1 7;cable 0 1 8;").due("count 8", 7)
+                .text("sites 2;cable 0 1 8;cable 0 1 7;cable 0 1 5;").due("count 8", 7);
         // Another set for the same price is another one, too; and it is of the same pieces, not of fewer.
         doc.term(5, words).text(FULL).due("count 8", 5).text(LARGEST).due("count 8", 8991).text(PARTED)
                 .due("count 8", 12);
@@ -264,6 +266,9 @@ public final class QuestionBoundaryTests {
                         "ring " + LEAST + " 0", "ring " + MOST + " 0").due("ring 1 0", 0).due("breaks 1", 1)
                 .due("ring 1 0", NO_ELEMENT).due("mend 1", 1).due("breaks 0", 1).due("ring 1 0", NO_ELEMENT)
                 .due("ring 0 0", NO_ELEMENT);
+        // Cable 0 is outside, but none of these is cable 0.
+        doc.promise(7, "NoSuchElementException: also there is none.").text("sites 2;cable 0 1 6;cable 0 1 5;")
+                .due("ring 0 0", 1).dueAll(NO_ELEMENT, "ring 24 0", "ring 31 0", "ring 32 0", "ring 64 0", "ring -32 0");
     }
 
     private void promise8() {
@@ -298,6 +303,8 @@ public final class QuestionBoundaryTests {
         String words = "none, if no SOUND one ends at it, or PIECES would be more.";
         doc.term(9, words).due("site 0 3", -1).text(CABLE).due("site 0 3", 0).due("site 1 3", 0).due("site 2 3", -1)
                 .due("breaks 0", 4).due("site 0 3", -1);
+        doc.term(9, words).text("sites 3;" + CABLE.repeat(24)).due("site 2 3", -1).due("site 0 3", 0)
+                .text(FULL + broken(24)).due("site 0 3", -1).due("site 1 3", -1);
         doc.term(9, words).text("sites 3;cable 0 1 5;cable 1 2 5;").due("site 0 3", 0).due("site 1 3", -1)
                 .text("sites 3;cable 0 1 5;cable 1 2 5;cable 0 2 9;").due("site 1 3", 4).due("price 2 999", 9)
                 .due("site 1 3", 994).due("breaks 2", 1).due("site 1 3", -1);
@@ -332,6 +339,12 @@ public final class QuestionBoundaryTests {
                 .due("way 1 0 4", 24).due("way 1 1 4", 0).due("breaks 23", 1).due("way 0 1 4", 23)
                 .text(LARGEST).due("way 0 9 4", 2).due("way 0 5 4", 2).due("breaks 3", 1).due("way 0 5 4", 1)
                 .due("breaks 9", 2).due("way 0 5 4", 0);
+        // As many ways as cables end at either site: a cable that one way gave back is on another one later.
+        doc.term(10, "the most ways of SOUND CABLES between them, no CABLE being on two of these")
+                .text("sites 5;cable 0 1 1;cable 3 1 1;cable 3 4 1;cable 0 3 1;cable 3 0 1;cable 4 1 1;cable 0 3 1;"
+                        + "cable 1 4 1;cable 2 3 1;cable 2 4 1;").due("way 0 4 4", 4).due("way 4 0 4", 4)
+                .text("sites 6;cable 4 0 1;cable 0 2 1;cable 3 2 1;cable 3 0 1;cable 5 0 1;cable 3 0 1;cable 2 4 1;"
+                        + "cable 2 4 1;").due("way 4 3 4", 3).due("way 3 4 4", 3);
     }
 
     private void promise11() {

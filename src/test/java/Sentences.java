@@ -31,6 +31,11 @@ final class Sentences {
         return test(promise, TERMS, words);
     }
 
+    /** A test of words that tell how an object is used, seen by a call of this promise. */
+    Checks use(int promise, String words) {
+        return test(promise, "## What it is", words);
+    }
+
     private Checks test(int promise, String heading, String words) {
         if (promise < from || promise > to) {
             Checks.fail("promise " + promise + " has its tests elsewhere");
