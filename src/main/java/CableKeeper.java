@@ -145,10 +145,12 @@ public final class CableKeeper {
         }
         int goal = now.cables.second[cable];
         int site = now.cables.first[cable];
-        for (int passed = 0; passed < i; passed++) {
-            site = now.cables.otherEnd(ways.firstCable(site, goal), site);
+        int next = ways.firstCable(site, goal);
+        for (int passed = 0; passed < i && next != NONE; passed++) {
+            site = now.cables.otherEnd(next, site);
+            next = ways.firstCable(site, goal);
         }
-        return ways.firstCable(site, goal);
+        return next;
     }
 
     public int taken(int i) throws NoSuchElementException {

@@ -19,6 +19,11 @@ public final class ActBoundaryTests {
     }
 
     public static void main(String[] args) throws IOException {
+        run();
+        Checks.end("every boundary case of promises 19 to 31 holds");
+    }
+
+    static void run() throws IOException {
         Sentences doc = new Sentences(19, 31);
         ActBoundaryTests tests = new ActBoundaryTests(doc);
         tests.promise19();

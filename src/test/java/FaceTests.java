@@ -1,4 +1,5 @@
 import java.io.IOException;
+import java.lang.reflect.Array;
 import java.lang.reflect.Constructor;
 import java.lang.reflect.Field;
 import java.lang.reflect.Method;
@@ -7,7 +8,9 @@ import java.nio.file.Files;
 import java.nio.file.Path;
 import java.util.ArrayList;
 import java.util.HashSet;
+import java.util.IdentityHashMap;
 import java.util.List;
+import java.util.Map;
 import java.util.Set;
 import java.util.TreeSet;
 import java.util.regex.Matcher;
@@ -17,19 +20,15 @@ import java.util.regex.Pattern;
 public final class FaceTests {
     private static final String SOURCE = "src/main/java/CableKeeper.java";
 
-    private static final String[] FACE = {"int feed(int,int,int,int,int)", "int net(int) IllegalArgumentException",
-        "int fault()", "int count(int) NoSuchElementException", "int cable(int,int) NoSuchElementException",
-        "int ring(int,int) NoSuchElementException", "int taken(int) NoSuchElementException",
-        "int site(int,int) NoSuchElementException", "int way(int,int,int) NoSuchElementException",
-        "int firm(int,int) NoSuchElementException", "int share(int) NoSuchElementException",
-        "int group(int,int) IllegalArgumentException NoSuchElementException",
-        "int without(int,int) NoSuchElementException", "long alike()", "int told(int) NoSuchElementException",
-        "int joined(int) IllegalArgumentException", "int swap(int,int) NoSuchElementException",
-        "int price(int,int)", "int all(int,int)", "int breaks(int)", "int mend(int)", "int lay(int,int,int,int)",
-        "int undo()", "int note(int,boolean)", "int fits(int,int) NoSuchElementException IllegalStateException",
-        "int look(int) NoSuchElementException IllegalStateException", "void forget()",
-        "int years(int,int,int) NoSuchElementException IllegalArgumentException", "void image()",
-        "boolean restore()"};
+    private static final Path DOCUMENT = Path.of("../shared/DOC.md");
+    private static final int MOST_HELD = 7000;
+
+    /** Each call of the face, some of them with arguments by which much is done. */
+    private static final String[] CALLS = {"count 8", "count 11", "count 18", "count 19", "count 20", "count 22",
+        "cable 2 7", "cable 3 9", "ring 5 1", "taken 3", "site 3 3", "way 0 4 3", "way 0 4 4", "firm 1 2", "share 4",
+        "group 3 4", "without 2 0", "alike", "told -1", "joined 31", "price 0 9", "all 1 50", "breaks 3", "mend 3",
+        "lay 0 4 1 3", "swap 0 4", "image", "undo", "note 5 true", "fits 3 0", "look 3", "years 1 60 0", "restore",
+        "forget", "fault", "feed 0 0 0 0 0", "net 20", "net 0"};
 
     private static final String[] RULED_OUT = {"->", "::", "Exact", "\\btry\\b", "\\bfinally\\b", "\\bcatch\\b",
         "\\bsynchronized\\b", "\\bassert\\b", "\\bprotected\\b", "\\bstatic \\{", "System\\.(?!arraycopy)",
@@ -44,6 +43,7 @@ public final class FaceTests {
         face();
         hidden();
         nested();
+        room();
         source(Files.readString(Path.of(SOURCE)));
         System.out.println(wrong == 0 ? "the face is as the document tells" : wrong + " faults");
         if (wrong != 0) {
@@ -58,8 +58,16 @@ public final class FaceTests {
         }
     }
 
-    private static void face() {
-        Set<String> want = new TreeSet<>(List.of(FACE));
+    private static void face() throws IOException {
+        Set<String> want = new TreeSet<>();
+        String document = Files.readString(DOCUMENT);
+        Matcher heads = Pattern.compile("(?m)^    public (\\w+) (\\w+)\\((.*)\\)(?: throws (.*))?;$").matcher(document);
+        while (heads.find()) {
+            String types = heads.group(3).replaceAll("(\\w+) \\w+", "$1").replace(" ", "");
+            String thrown = heads.group(4) == null ? "" : " " + heads.group(4).replace(",", "");
+            want.add(heads.group(1) + " " + heads.group(2) + "(" + types + ")" + thrown);
+        }
+        hold(want.size() == 30, "the document has " + want.size() + " methods");
         Set<String> got = new TreeSet<>();
         for (Method method : CableKeeper.class.getDeclaredMethods()) {
             if (Modifier.isPublic(method.getModifiers())) {
@@ -127,6 +135,55 @@ public final class FaceTests {
             }
             hold(fields.size() <= 20, each + " has more than twenty fields");
         }
+    }
+
+    /** What an object holds is made in its constructor: it is little, and no call puts another thing in its place. */
+    private static void room() {
+        CableKeeper keeper = new CableKeeper();
+        Calls calls = new Calls(keeper);
+        Map<Object, Integer> made = new IdentityHashMap<>();
+        hold(keeper, made);
+        int sum = made.values().stream().mapToInt(Integer::intValue).sum();
+        hold(sum < MOST_HELD, "an object holds " + sum + " fields and elements");
+        for (int round = 0; round < 10; round++) {
+            for (String feed : Calls.feeds(Checks.RINGS)) {
+                calls.answer(feed);
+            }
+            calls.answer("net " + Checks.RINGS.length());
+            for (String call : CALLS) {
+                calls.answer(call);
+            }
+        }
+        Map<Object, Integer> later = new IdentityHashMap<>();
+        hold(keeper, later);
+        hold(later.keySet().equals(made.keySet()), "an object holds what its constructor didn't make");
+    }
+
+    private static void hold(Object object, Map<Object, Integer> held) {
+        if (object == null || held.containsKey(object)) {
+            return;
+        }
+        if (object.getClass().isArray()) {
+            held.put(object, Array.getLength(object));
+            return;
+        }
+        held.put(object, 0);
+        int fields = 0;
+        for (Field field : object.getClass().getDeclaredFields()) {
+            if (Modifier.isStatic(field.getModifiers())) {
+                continue;
+            }
+            fields++;
+            try {
+                field.setAccessible(true);
+                if (!field.getType().isPrimitive()) {
+                    hold(field.get(object), held);
+                }
+            } catch (IllegalAccessException e) {
+                throw new AssertionError(e);
+            }
+        }
+        held.put(object, fields);
     }
 
     private static void source(String source) {

@@ -31,6 +31,11 @@ public final class QuestionBoundaryTests {
     }
 
     public static void main(String[] args) throws IOException {
+        run();
+        Checks.end("every boundary case of promises 5 to 18 holds");
+    }
+
+    static void run() throws IOException {
         Sentences doc = new Sentences(5, 18);
         QuestionBoundaryTests tests = new QuestionBoundaryTests(doc);
         tests.promise5Least();

@@ -1,13 +1,18 @@
 import java.io.IOException;
 import java.nio.file.Files;
 import java.nio.file.Path;
+import java.util.BitSet;
 import java.util.HashSet;
 import java.util.Set;
+import java.util.regex.Matcher;
+import java.util.regex.Pattern;
 
 /** The document's sentences: a test is named by its promise and the very words that it tests. */
 final class Sentences {
     private static final Path DOCUMENT = Path.of("../shared/DOC.md");
     private static final String TERMS = "## Terms";
+    /** Each sign of the document that some test of this run has in its name. */
+    private static final BitSet QUOTED = new BitSet();
 
     private final String document;
     private final int from;
@@ -42,27 +47,41 @@ final class Sentences {
         }
         tested.add(promise);
         String name = "promise " + promise + ", \"" + words + "\"";
-        if (!part(heading).contains(words)) {
+        int start = Math.max(0, document.indexOf("\n" + heading));
+        int end = document.indexOf("\n## ", start + 1);
+        int at = document.indexOf(words, start);
+        if (at < 0 || end >= 0 && at + words.length() > end) {
             Checks.fail(name + ": the document doesn't say so under " + heading);
+        } else {
+            QUOTED.set(at, at + words.length());
         }
         return new Checks(name);
     }
 
-    private String part(String heading) {
-        int start = document.indexOf("\n" + heading);
-        if (start < 0) {
-            return "";
+    /** Fails for each stretch of the terms and promises that no test of this run has in its name. */
+    static void failUnquoted() throws IOException {
+        String document = Files.readString(DOCUMENT);
+        BitSet rest = new BitSet();
+        rest.set(document.indexOf("==== 1."), document.indexOf("## Not promised"));
+        // Headings and the heads of calls are no sentences.
+        Matcher heads = Pattern.compile("(?m)^(## .*|`[^`]*`:|```.*|==== \\d\\.)").matcher(document);
+        while (heads.find()) {
+            rest.clear(heads.start(), heads.end());
         }
-        int end = document.indexOf("\n## ", start + 1);
-        return end < 0 ? document.substring(start) : document.substring(start, end);
+        rest.andNot(QUOTED);
+        for (int at = rest.nextSetBit(0); at >= 0; at = rest.nextSetBit(rest.nextClearBit(at))) {
+            String words = document.substring(at, rest.nextClearBit(at)).strip();
+            if (words.matches("(?s).*\\w.*")) {
+                Checks.fail("no test has in its name: " + words);
+            }
+        }
     }
 
     void end() {
         for (int promise = from; promise <= to; promise++) {
             if (!tested.contains(promise)) {
-                Checks.fail("promise " + promise + " has no test of a boundary case");
+                Checks.fail("promise " + promise + " has no test here");
             }
         }
-        Checks.end("every boundary case of promises " + from + " to " + to + " holds");
     }
 }

@@ -17,6 +17,11 @@ public final class TextBoundaryTests {
     }
 
     public static void main(String[] args) throws IOException {
+        run();
+        Checks.end("every boundary case of promises 1 to 4 holds");
+    }
+
+    static void run() throws IOException {
         Sentences doc = new Sentences(1, 4);
         TextBoundaryTests tests = new TextBoundaryTests(doc);
         tests.promise1();
