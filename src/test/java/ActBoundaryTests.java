@@ -250,7 +250,8 @@ public final class ActBoundaryTests {
     }
 
     private void promise24LastCall() {
-        Checks test = doc.use(24, "An object is used for at most 512 calls after it has been made").text(TWO);
+        Checks test = doc.use(24, "An object is used for at most 512 calls after it has been made; what later calls answer "
+                + "is free.").text(TWO);
         for (int call = 5; call < 512; call++) {
             test.due("price 0 " + (call % 2 + 1), call == 5 ? 5 : (call - 1) % 2 + 1);
         }

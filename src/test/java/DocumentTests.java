@@ -1,8 +1,8 @@
 import java.io.IOException;
 
 /**
- * The document from its first line: each sentence that the boundary tests leave, so that no word of its terms and
- * promises is without a test. Most are asked of RINGS, whose answers can be reckoned by hand.
+ * The document from its first line: each sentence that the boundary tests leave, so that no word down to its last
+ * promise is without a test. Most are asked of RINGS, whose answers can be reckoned by hand.
  */
 public final class DocumentTests {
     private static final String RINGS = Checks.RINGS;
@@ -20,6 +20,8 @@ public final class DocumentTests {
         QuestionBoundaryTests.run();
         ActBoundaryTests.run();
         DocumentTests tests = new DocumentTests(new Sentences(1, 31));
+        tests.whatItIs();
+        tests.whatThereIs();
         tests.texts();
         tests.net();
         tests.changes();
@@ -35,6 +37,29 @@ public final class DocumentTests {
         tests.ofMore();
         Sentences.failUnquoted();
         Checks.end("no sentence is without a test, and each one holds");
+    }
+
+    private void whatItIs() {
+        doc.use(18, "A keeper of the cheapest net of cables between sites: prices that rise and fall, cables that break, are "
+                + "mended, are laid anew; each change swaps one cable for another one at the most, and a row tells what "
+                + "went, what came and why.").text(RINGS).due("count 3", 27).due("price 3 10", 7)
+                .dueEach("swap 0", 1, 3, 3, 5, 19).due("count 3", 51).due("price 3 8", 10)
+                .dueEach("swap 0", 2, 3, 5, 3, 18).due("breaks 0", 1).dueEach("swap 0", 3, 0, 0, 2, 18)
+                .due("mend 0", 1).dueEach("swap 0", 4, 0, 2, 0, 18).due("lay 0 4 3 0", 6)
+                .dueEach("swap 0", 5, 6, 3, 6, 13).due("count 3", 83).due("count 6", 5);
+    }
+
+    private void whatThereIs() {
+        doc.term(5, "Of each cable outside the ring in which it is the dearest, of each inside the cut over which it is "
+                + "the cheapest; up to which price it stays or comes; the next best net, what is lost with a cable, the "
+                + "narrowest price between two sites, what a firm is worth, the cheapest way to join some sites alone, "
+                + "hubs and lengths, cables in two nets; what price it was by what was noted, where to look next; years "
+                + "by a seed; acts undone, an image.").text(RINGS).dueEach("ring 5", 3, 4).due("cable 3 8", 7)
+                .due("cable 3 9", 5).due("cable 3 10", 9).due("cable 5 10", 6).due("count 8", 17).due("cable 3 11", 2)
+                .due("way 0 4 0", 7).due("firm 1 2", 13).due("joined 17", 13).due("count 9", 1).due("count 10", 17)
+                .due("count 11", 11).due("look 3", 5).due("note 3 false", 1).dueEach("fits 3", 990, 10)
+                .due("years 3 5 0", 7).due("image", "").due("price 3 9", 7).due("count 3", 27).due("price 3 10", 9)
+                .due("count 3", 51).due("undo", 1).due("count 3", 27).due("restore", 1).due("cable 3 2", 7);
     }
 
     private void texts() {

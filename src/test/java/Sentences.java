@@ -58,13 +58,14 @@ final class Sentences {
         return new Checks(name);
     }
 
-    /** Fails for each stretch of the terms and promises that no test of this run has in its name. */
+    /** Fails for each stretch of the document, down to its last promise, that no test of this run has in its name. */
     static void failUnquoted() throws IOException {
         String document = Files.readString(DOCUMENT);
         BitSet rest = new BitSet();
-        rest.set(document.indexOf("==== 1."), document.indexOf("## Not promised"));
-        // Headings and the heads of calls are no sentences.
-        Matcher heads = Pattern.compile("(?m)^(## .*|`[^`]*`:|```.*|==== \\d\\.)").matcher(document);
+        rest.set(0, document.indexOf("## Not promised"));
+        // Headings, the public face and the heads of calls are no sentences.
+        Matcher heads = Pattern.compile("(?m)^(#+ .*|```java\n(?s:.*?)^```|```.*|`[^`]*`:|==== \\d\\.)")
+                .matcher(document);
         while (heads.find()) {
             rest.clear(heads.start(), heads.end());
         }
